@@ -1353,15 +1353,22 @@ public final class HillPaths {
 
         /** The least (0) or greatest (1) of a place; GAP if there is no number near it. */
         int edgeOfSpan(int place, int greatest) {
-            int left = numberFrom(place, -1);
-            int right = numberFrom(place, 1);
+            int left = lastNumberUpTo(place);
+            int right = firstNumberFrom(place);
             if (left == GAP) return right;
             if (right == GAP) return left;
             return greatest == 1 ? Math.max(left, right) : Math.min(left, right);
         }
 
-        private int numberFrom(int place, int direction) {
-            for (int i = place; i >= 0 && i < size; i += direction) {
+        private int lastNumberUpTo(int place) {
+            for (int i = Math.min(place, size - 1); i >= 0; i--) {
+                if (places[i] != GAP) return places[i];
+            }
+            return GAP;
+        }
+
+        private int firstNumberFrom(int place) {
+            for (int i = Math.max(0, place); i < size; i++) {
                 if (places[i] != GAP) return places[i];
             }
             return GAP;

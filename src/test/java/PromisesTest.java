@@ -163,12 +163,24 @@ public final class PromisesTest {
         due("peat told(0, 11)", ofKind(0, 42).told(0, 11), 50 + 4);
         due("level drained rock told(0, 11)", ofKind(2, 0).told(0, 11), 0);
         due("level boards on rock told(0, 11)", ofKind(4, 0).told(0, 11), 1);
+        for (int slope = 0; slope <= 9; slope++) {
+            for (int soil = 0; soil <= 2; soil++) holdsOf(slope, soil);
+        }
         HillPaths z = new HillPaths();
         z.stretch(12, 7, 0, 0);
         z.trip(12, 300);
         z.trip(21, 99);
         due("both ways told(0, 10)", z.told(0, 10), 399);
         due("told(0, 11)", z.told(0, 11), 3);
+    }
+
+    /** Of drained ones and boards, by their own wear of 100 boots in a year of rain 5. */
+    private static void holdsOf(int slope, int soil) {
+        int plain = 20 - 2 * slope + (soil == 0 ? 5 : 0);
+        int drained = Math.max(0, (slope + 1) * (1 << soil) + slope / 2 - 5);
+        int ground = slope * 10 + soil;
+        due("drained on " + ground + " told(0, 12)", ofKind(2, ground).told(0, 12), plain - drained);
+        due("boards on " + ground + " told(0, 12)", ofKind(4, ground).told(0, 12), plain - (drained / 3 + 1) - 3);
     }
 
     private static void p4() {
@@ -1463,6 +1475,7 @@ public final class PromisesTest {
         due("beds(10)", x.beds(10), 10);
         keptWhole();
         notKept();
+        newBehindBack();
     }
 
     private static void keptWhole() {
@@ -1526,6 +1539,40 @@ public final class PromisesTest {
         due("parts(0, 1)", x.parts(0, 1), 10);
         due("count(12)", x.count(12), 2);
         due("count(13)", x.count(13), 24);
+    }
+
+    /** What was there and is no more leaves nothing to what comes in its place. */
+    private static void newBehindBack() {
+        promise = 46;
+        HillPaths x = new HillPaths();
+        x.keep();
+        x.stretch(34, 9, 92, 3);
+        x.trip(34, 500);
+        x.donor(0, 9999);
+        x.run(1);
+        x.mend(0, 4, 1);
+        x.run(1);
+        x.set(0, 5, 77);
+        x.set(0, 7, 1);
+        law(x, "price 5", 0, 0);
+        due("told(0, 8)", x.told(0, 8), 4);
+        due("back()", x.back(), 0);
+        due("told(0, 8)", x.told(0, 8), BAD);
+        due("mendTold(0, 3)", x.mendTold(0, 3), BAD);
+        due("of(0, 0)", x.of(0, 0), BAD);
+        due("stretch(1, 5, 0, 0)", x.stretch(1, 5, 0, 0), 0);
+        int[] want = {0, 1, 5, 0, 0, 10, 0, 0, 0, 51, 0, 0, 25};
+        for (int i = 0; i < want.length; i++) due("told(0, " + i + ")", x.told(0, i), want[i]);
+        due("trip(1, 7)", x.trip(1, 7), 0);
+        due("told(0, 10)", x.told(0, 10), 7);
+        due("rule(0, 2, 0)", x.rule(0, 2, 0), 50);
+        x.donor(0, 500);
+        x.run(1);
+        due("mend(0, 1, 1)", x.mend(0, 1, 1), 0);
+        due("mendTold(0, 3)", x.mendTold(0, 3), 0);
+        due("count(11)", x.count(11), 400);
+        law(x, "wash 8", 0, 0);
+        due("of(0, 0)", x.of(0, 0), 3);
     }
 
     private static void p47() {
