@@ -181,7 +181,7 @@ public final class ModelTest {
 
     public static void main(String[] args) throws Exception {
         int first = args.length > 0 ? Integer.parseInt(args[0]) : 1;
-        int many = args.length > 1 ? Integer.parseInt(args[1]) : 300;
+        int many = args.length > 1 ? Integer.parseInt(args[1]) : 2000;
         int wrong = 0;
         for (int seed = first; seed < first + many && wrong < 3; seed++) {
             if (go(seed)) continue;
