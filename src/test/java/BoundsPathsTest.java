@@ -104,6 +104,12 @@ public final class BoundsPathsTest {
         Bounds.run("stretch 1 1 0 0 = 0", "told 0 5 = 10", "told 0 7 = 0", "told 0 8 = 0");
     }
 
+    static void p02_aPlaceThatIsUsedAgainIsAsNew() {
+        Bounds.run("law 'price 0' 3 0", "keep", "stretch 34 9 92 3", "mend 0 4 0", "run 1", "set 0 5 77", "set 0 7 1", "told 0 8 = 4", "back",
+            "stretch 1 5 0 0 = 0", "told 0 0 = 0", "told 0 1 = 1", "told 0 2 = 5", "told 0 3 = 0", "told 0 4 = 0", "told 0 5 = 10", "told 0 6 = 0",
+            "told 0 7 = 0", "told 0 8 = 0", "count 1 = 0");
+    }
+
     static void p02_sixteenAtMostNumberedFrom0() {
         Script s = new Script();
         for (int i = 0; i < 16; i++) s = s.plus("stretch 12 " + (i + 1) + " 0 0 = " + i);
@@ -258,6 +264,17 @@ public final class BoundsPathsTest {
         // On peat: (slope and 1) times 4, half of slope, less 5: 4 and 0 on the level, 8 on slope 1.
         holdsIs(2, 1, 2, 20);
         holdsIs(2, 1, 12, 18 - 3);
+    }
+
+    static void p03_holdsOfDrainedAndBoardsOnEachGround() {
+        for (int slope = 0; slope <= 9; slope++) {
+            for (int soil = 0; soil <= 2; soil++) {
+                int plain = 20 - 2 * slope + (soil == 0 ? 5 : 0);
+                int drained = Math.max(0, (slope + 1) * (1 << soil) + slope / 2 - 5);
+                holdsIs(2, 1, 10 * slope + soil, plain - drained);
+                holdsIs(4, 1, 10 * slope + soil, plain - (drained / 3 + 1));
+            }
+        }
     }
 
     static void p03_holdsOfBoardsLosesACutHalfOfLength() {

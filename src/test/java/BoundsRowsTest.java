@@ -111,6 +111,12 @@ public final class BoundsRowsTest {
         Bounds.runFrom(telling(KEPT, told(3)), "check 2 = 5");
     }
 
+    static void p44_numbersOfAnEarlierCheckDoNotCount() {
+        Script s = telling(KEPT, told(2)).plus("check 2");
+        for (int i = 0; i < 4; i++) Bounds.runFrom(telling(s, told(2).subList(0, i)), "count 12 = " + i, "check 2 = " + (1 + i), "count 12 = 0");
+        Bounds.runFrom(telling(s, told(2)), "check 2 = 0");
+    }
+
     static void p44_theFirstThatIsNotSoStandsAheadOfTooMany() {
         List<Integer> numbers = told(1);
         numbers.set(1, 6);

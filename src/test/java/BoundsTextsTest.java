@@ -152,6 +152,15 @@ public final class BoundsTextsTest {
         fault("(".repeat(96), 0);
     }
 
+    static void p15_aTextOrAFaultLeavesNothingToTheNext() {
+        Bounds.run("stretch 1 1 0 0", "law 'wash z' 0 0 = -105", "law 'wash 1' 0 0 = 0", "law 'wash 12345' 0 0 = -105", "law 'wash 2' 0 0 = 1",
+            "law 'wash' 0 0 = -104", "law '((' 0 0 = -100", "law 'wash ((((((((' 0 0 = -113", "law 'wash ((((((((3))))))))' 0 0 = 2", "rule 0 3 0 = 3",
+            "of 2 3 = 1");
+        String ones = "1+".repeat(45);
+        Bounds.run("stretch 1 1 0 0", "law 'wash " + ones + "1' 0 0 = 0", "law 'wash " + ones + "+' 0 0 = -195", "law 'wash " + ones + "1' 0 0 = 1",
+            "rule 0 3 0 = 46", "of 1 3 = 46", "law 'leave 5' 0 0 = 2", "rule 0 0 0 = 5", "rule 0 3 0 = 46");
+    }
+
     static void p15_numbersHave1To4Digits() {
         good("leave 0");
         good("leave 9");
