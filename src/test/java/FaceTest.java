@@ -37,6 +37,7 @@ public final class FaceTest {
         face();
         insides();
         source();
+        document();
         System.out.println(wrong == 0 ? "the face is as due" : wrong + " faults");
         if (wrong != 0) System.exit(1);
     }
@@ -106,6 +107,39 @@ public final class FaceTest {
         }
         must(!Pattern.compile("\"\\s*\\+|\\+\\s*\"").matcher(code).find(), "no texts joined by +");
         methodsAreShort(code);
+    }
+
+    /** The face as the document writes it: each signature with its names, in its order; and what stands ahead of which. */
+    private static void document() throws Exception {
+        String doc = Files.readString(Path.of("../shared/DOC.md"));
+        String source = Files.readString(Path.of("src/main/java/HillPaths.java"));
+        Matcher face = Pattern.compile("(?s)```java\n(.*?)```").matcher(doc);
+        must(face.find(), "the document has a face");
+        int methods = 0, at = 0;
+        for (String line : face.group(1).split("\n")) {
+            String head = line.trim().replaceAll(";$", "");
+            if (head.contains(" static final ")) {
+                for (String constant : head.replaceAll("^.* int ", "").split(", ")) {
+                    must(source.replaceAll("\\s+", " ").contains(constant), "the source has " + constant);
+                }
+            } else if (head.startsWith("public int ")) {
+                int found = source.indexOf("    " + head + " {\n");
+                must(found > at, "the source has, in the document's order: " + head);
+                at = found;
+                methods++;
+            }
+        }
+        must(methods == METHODS.length, "the document has " + METHODS.length + " methods, not " + methods);
+        Matcher ahead = Pattern.compile("Ahead of the calls `(\\w+)`.*, `(\\w+)` the interface says: (.*)[.]").matcher(doc);
+        int parts = 0;
+        while (ahead.find()) {
+            int comment = source.indexOf("// " + ahead.group(3) + "\n");
+            int first = source.indexOf(" int " + ahead.group(1) + "("), last = source.indexOf(" int " + ahead.group(2) + "(");
+            int next = source.indexOf("    // ----", comment + 1);
+            must(comment >= 0 && comment < first && last < next, ahead.group(3) + " stands ahead of its calls alone");
+            parts++;
+        }
+        must(parts == 6, "the document names six parts, not " + parts);
     }
 
     /** Lines of each method: from its head, four or eight blanks in, to its closing brace. */
