@@ -99,12 +99,17 @@ public final class GrammarTest {
         return set;
     }
 
-    /** Words with one blank between them; where a word was told, and where it ends. */
-    private static void ask(List<String> words, String ahead, String between, String behind) {
+    /** With no blank between letters and digits, if glued: the second of two such words is a fault, too. */
+    private static void ask(List<String> words, String ahead, String between, String behind, boolean glued) {
         StringBuilder s = new StringBuilder(ahead);
         int fault = faultOf(words), place = -1;
         for (int i = 0; i < words.size(); i++) {
-            if (i > 0) s.append(needsBlank(words.get(i - 1), words.get(i)) ? " " : between);
+            if (i > 0 && !areWords(words.get(i - 1), words.get(i))) s.append(between);
+            if (i > 0 && areWords(words.get(i - 1), words.get(i))) {
+                boolean stuck = glued && isNumber(words.get(i - 1)) != isNumber(words.get(i));
+                if (!stuck) s.append(" ");
+                if (stuck && (fault < 0 || fault > i)) fault = i;
+            }
             if (i == fault) place = s.length();
             s.append(words.get(i));
         }
@@ -120,13 +125,17 @@ public final class GrammarTest {
         System.out.println("promise 15: '" + s + "' answered " + got + ", due is " + want);
     }
 
-    private static boolean needsBlank(String one, String other) {
+    private static boolean areWords(String one, String other) {
         return one.matches("[a-z0-9]+") && other.matches("[a-z0-9]+");
+    }
+
+    private static boolean isNumber(String word) {
+        return word.matches("[0-9]+");
     }
 
     /** All rows of so many words behind a key. */
     private static void askAll(List<String> words, String[] alphabet, int more) {
-        ask(words, "", " ", "");
+        ask(words, "", " ", "", false);
         if (more == 0) return;
         for (String w : alphabet) {
             words.add(w);
@@ -182,11 +191,12 @@ public final class GrammarTest {
         for (int k = 0; k < 4; k++) {
             String name = String.valueOf(NAMES[k].charAt(k % 3));
             askAll(new ArrayList<>(List.of(KEYS[k])), new String[] {name, "12", "!", "(", ")", "|", "&", "<", "=", "-", "*"}, 4);
-            for (char c = 'a'; c <= 'z'; c++) ask(new ArrayList<>(List.of(KEYS[k], String.valueOf(c))), " ", " ", " ");
+            for (char c = 'a'; c <= 'z'; c++) ask(new ArrayList<>(List.of(KEYS[k], String.valueOf(c))), " ", " ", " ", false);
         }
         Random r = new Random(15);
         for (int i = 0; i < 6000; i++) {
-            ask(anyText(r), " ".repeat(r.nextInt(3)), r.nextBoolean() ? "" : " ", " ".repeat(r.nextInt(3)));
+            String between = r.nextBoolean() ? "" : " ";
+            ask(anyText(r), " ".repeat(r.nextInt(3)), between, " ".repeat(r.nextInt(3)), r.nextInt(4) == 0);
         }
         System.out.println(asked + " texts, " + wrong + " not as due");
         if (wrong != 0) System.exit(1);
